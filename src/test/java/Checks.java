@@ -1,0 +1,62 @@
+import java.util.function.LongSupplier;
+
+/** Counts what a test program finds, and ends it with exit code 1 if an answer was wrong. */
+final class Checks {
+    static final Class<? extends RuntimeException> INDEX = IndexOutOfBoundsException.class;
+    static final Class<? extends RuntimeException> ARGUMENT = IllegalArgumentException.class;
+    static final Class<? extends RuntimeException> STATE = IllegalStateException.class;
+
+    private int made;
+    private int wrong;
+
+    void same(String what, long got, long due) {
+        made++;
+        if (got != due) {
+            wrong++;
+            System.out.println(what + " answered " + got + ", due is " + due);
+        }
+    }
+
+    void sameDouble(String what, double got, double due) {
+        made++;
+        if (got != due) {
+            wrong++;
+            System.out.println(what + " answered " + got + ", due is " + due);
+        }
+    }
+
+    void yes(String what, boolean got) {
+        same(what, got ? 1 : 0, 1);
+    }
+
+    void no(String what, boolean got) {
+        same(what, got ? 1 : 0, 0);
+    }
+
+    /** The call must throw just this kind, and leave all that can be asked of the bay as it was. */
+    void refused(String what, SemaphoreBay bay, Class<? extends RuntimeException> kind, LongSupplier call) {
+        made++;
+        String before = Picture.of(bay);
+        String thrown = "nothing";
+        try {
+            call.getAsLong();
+        } catch (RuntimeException e) {
+            thrown = e.getClass().getName();
+        }
+        if (!thrown.equals(kind.getName())) {
+            wrong++;
+            System.out.println(what + " threw " + thrown + ", due is " + kind.getName());
+        }
+        if (!before.equals(Picture.of(bay))) {
+            wrong++;
+            System.out.println(what + " threw and changed something");
+        }
+    }
+
+    void end(String name) {
+        System.out.println(name + ": " + made + " checks, " + wrong + " wrong");
+        if (made == 0 || wrong > 0) {
+            System.exit(1);
+        }
+    }
+}
