@@ -1,3 +1,5 @@
+import java.util.function.Supplier;
+
 /** Promises 26 to 30: what would be, and the digest. */
 public final class AheadTest {
     private static final Checks C = new Checks();
@@ -9,6 +11,7 @@ public final class AheadTest {
         lostBy();
         lostByCanBeBelowZero();
         stuckIn();
+        whatWouldBeIsWhatComes();
         nothingIsChanged();
         digestOfANewObject();
         digestOfARun();
@@ -42,6 +45,7 @@ public final class AheadTest {
         C.refused("27: order -1", bay, Checks.ARGUMENT, () -> bay.waitedWith(-1, 1));
         C.refused("27: 0", bay, Checks.ARGUMENT, () -> bay.waitedWith(0, 0));
         C.refused("27: 121", bay, Checks.ARGUMENT, () -> bay.waitedWith(0, 121));
+        C.same("27: one", bay.waitedWith(0, 1), 1);
         C.same("27: three", bay.waitedWith(0, 3), 3);
         C.same("27: all", bay.waitedWith(0, 120), 4);
         bay.tick(3);
@@ -133,6 +137,70 @@ public final class AheadTest {
         C.same("29: now", bay.stuckIn(1), 0);
         C.same("29: never", Bays.wholeMeeting().stuckIn(120), -1);
         C.same("29: no trains", new SemaphoreBay().stuckIn(120), -1);
+    }
+
+    private static void whatWouldBeIsWhatComes() {
+        compareWithTwins(Bays::meeting, 6);
+        compareWithTwins(Bays::wholeMeeting, 10);
+        compareWithTwins(Bays::station, 40);
+        compareWithTwins(Bays::full, 40);
+    }
+
+    /** At each clock, what would be must be what comes if a twin, made alike, goes on. */
+    private static void compareWithTwins(Supplier<SemaphoreBay> maker, int clocks) {
+        for (int clock = 1; clock < clocks; clock++) {
+            SemaphoreBay bay = at(maker, clock);
+            for (int train = 0; train < bay.many(2); train++) {
+                C.same("26: at " + clock, bay.doneIn(train, 50), doneOfTwin(at(maker, clock), train));
+            }
+            for (int order = 0; order <= 2; order++) {
+                SemaphoreBay twin = at(maker, clock);
+                twin.order(order, Bays.STAY);
+                twin.tick(50);
+                C.same("27: at " + clock, bay.waitedWith(order, 50), waited(twin) - waited(bay));
+            }
+            for (int block = 0; block < bay.many(0); block++) {
+                SemaphoreBay asItIs = at(maker, clock);
+                SemaphoreBay shut = at(maker, clock);
+                shut.shut(block, 15);
+                C.same("28: at " + clock, bay.lostBy(block, 15), shut.tick(15) - asItIs.tick(15));
+            }
+            C.same("29: at " + clock, bay.stuckIn(50), stuckOfTwin(at(maker, clock)));
+        }
+    }
+
+    private static SemaphoreBay at(Supplier<SemaphoreBay> maker, int clock) {
+        SemaphoreBay bay = maker.get();
+        bay.tick(clock);
+        return bay;
+    }
+
+    private static int doneOfTwin(SemaphoreBay twin, int train) {
+        for (int gone = 0; gone <= 50; gone++) {
+            if (twin.ofTrain(train, 3) == twin.ofTrain(train, 2) - 1 && twin.ofTrain(train, 4) == -1) {
+                return gone;
+            }
+            twin.tick(1);
+        }
+        return -1;
+    }
+
+    private static int stuckOfTwin(SemaphoreBay twin) {
+        for (int gone = 0; gone <= 50; gone++) {
+            if (twin.many(6) > 0) {
+                return gone;
+            }
+            twin.tick(1);
+        }
+        return -1;
+    }
+
+    private static int waited(SemaphoreBay bay) {
+        int sum = 0;
+        for (int train = 0; train < bay.many(2); train++) {
+            sum += bay.ofTrain(train, 9);
+        }
+        return sum;
     }
 
     private static void nothingIsChanged() {

@@ -4,6 +4,7 @@ public final class TrainsTest {
 
     public static void main(String[] args) {
         train();
+        trainComesAsItIsAdded();
         trainNeedsRoom();
         stop();
         stopOfADoneTrain();
@@ -49,6 +50,20 @@ public final class TrainsTest {
         C.refused("8: nine", bay, Checks.STATE, () -> bay.train(0, 1, 4, 0));
         C.refused("8: nine, pace 4", bay, Checks.ARGUMENT, () -> bay.train(0, 4, 4, 0));
         C.refused("8: nine, station 6", bay, Checks.INDEX, () -> bay.train(0, 1, 6, 0));
+    }
+
+    private static void trainComesAsItIsAdded() {
+        SemaphoreBay bay = Bays.shuttle(9, 1);
+        bay.tick(10);
+        bay.route(2, 3, 0, false);
+        bay.train(0, 1, 2, 0);
+        bay.stop(1, 3, 0);
+        bay.tick(1);
+        C.same("8: it stays first", bay.ofTrain(1, 4), 2);
+        C.same("8: it stays first, and does not wait", bay.ofTrain(1, 9), 0);
+        bay.tick(1);
+        C.same("8: two ticks after it was added", bay.ofTrain(1, 5), 0);
+        C.same("8: late by its plan", bay.ofTrain(1, 8), 12);
     }
 
     private static void trainNeedsRoom() {
@@ -380,6 +395,13 @@ public final class TrainsTest {
         none.tick(4);
         C.same("12: without a route it waits", none.ofTrain(0, 9), 3);
         C.same("12: for none", none.waitsFor(0), -1);
+        none.block(9);
+        none.route(1, 0, 0, false);
+        none.train(0, 1, 1, 0);
+        none.stop(1, 0, 0);
+        none.tick(2);
+        C.same("12: the other one is on a route that does not lead there", none.ofBlock(0, 1), 1);
+        C.same("12: it is not to blame", none.waitsFor(0), -1);
     }
 
     /** The first block that is not clear counts, even if it is only shut, and only on the first route. */
