@@ -16,6 +16,7 @@ public final class AskingTest {
         ringOfThree();
         isOpen();
         meanLate();
+        askingAFullLine();
         askingChangesNothing();
         C.end("AskingTest");
     }
@@ -203,6 +204,18 @@ public final class AskingTest {
         bay.tick(1);
         C.same("22: no more", bay.waitsFor(1), -1);
         C.same("21: kept", bay.waitedFor(1, 0), 4);
+        SemaphoreBay first = Bays.shuttle(1, 1);
+        first.train(0, 1, 2, 0);
+        first.stop(1, 1, 0);
+        first.block(9);
+        first.route(2, 1, 1, false);
+        first.over(0, 1);
+        first.order(0, 1);
+        first.tick(2);
+        C.same("22: the first train waits", first.waitsFor(0), 1);
+        first.tick(10);
+        C.same("22: the first train no more", first.waitsFor(0), -1);
+        C.same("21: ticks of it, the last as the other came", first.waitedFor(0, 1), 9);
         SemaphoreBay twice = Bays.wholeMeeting();
         twice.tick(3);
         twice.holdBack(1, 5);
@@ -302,6 +315,37 @@ public final class AskingTest {
         C.sameDouble("25: of three", bay.meanLate(), 2.0 / 3.0);
         bay.tick(9);
         C.sameDouble("25: those that are done too", bay.meanLate(), 6.0 / 3.0);
+    }
+
+    private static void askingAFullLine() {
+        SemaphoreBay bay = Bays.full();
+        int[] due = {16, 16, 8, 0, 8, 0, 0};
+        for (int what = 0; what <= 6; what++) {
+            C.same("14: full " + what, bay.many(what), due[what]);
+        }
+        C.refused("14: full", bay, Checks.STATE, () -> bay.block(1));
+        C.refused("5: full", bay, Checks.STATE, () -> bay.over(15, 1));
+        for (int gone = 0; gone < 30; gone++) {
+            bay.tick(2);
+            C.same("14: each is somewhere, or done", bay.many(3) + bay.many(4) + bay.many(5), 8);
+            C.sameDouble("25: of eight", bay.meanLate() * 8, lateTogether(bay));
+        }
+        SemaphoreBay eight = new SemaphoreBay();
+        eight.block(1);
+        eight.block(1);
+        eight.route(0, 1, 0, false);
+        for (int train = 0; train < 8; train++) {
+            eight.train(0, 1, train / 2, 0);
+        }
+        C.same("5: none of eight trains is on it", eight.over(0, 1), 2);
+    }
+
+    private static int lateTogether(SemaphoreBay bay) {
+        int sum = 0;
+        for (int train = 0; train < bay.many(2); train++) {
+            sum += bay.ofTrain(train, 8);
+        }
+        return sum;
     }
 
     private static void askingChangesNothing() {

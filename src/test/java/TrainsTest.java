@@ -399,7 +399,7 @@ public final class TrainsTest {
         none.route(1, 0, 0, false);
         none.train(0, 1, 1, 0);
         none.stop(1, 0, 0);
-        none.tick(2);
+        none.tick(3);
         C.same("12: the other one is on a route that does not lead there", none.ofBlock(0, 1), 1);
         C.same("12: it is not to blame", none.waitsFor(0), -1);
     }
