@@ -6,6 +6,14 @@ final class Bays {
     private Bays() {
     }
 
+    /** The bay, as many ticks later; a call takes sixty at most. */
+    static SemaphoreBay after(SemaphoreBay bay, int ticks) {
+        for (int left = ticks; left > 0; left -= 60) {
+            bay.tick(Math.min(60, left));
+        }
+        return bay;
+    }
+
     /** One block, a route over it from 0 to 1 that is not whole, and a train with the plan 0@0, 1@5. */
     static SemaphoreBay shuttle(int length, int pace) {
         SemaphoreBay bay = new SemaphoreBay();
@@ -14,6 +22,28 @@ final class Bays {
         bay.train(0, pace, 0, 0);
         bay.stop(0, 1, 5);
         return bay;
+    }
+
+    /** A route from 0 to 1 over as many blocks as lengths, and a stay of 0. */
+    static SemaphoreBay row(boolean isWhole, int... lengths) {
+        SemaphoreBay bay = new SemaphoreBay();
+        for (int block = 0; block < lengths.length; block++) {
+            bay.block(lengths[block]);
+            if (block == 0) {
+                bay.route(0, 1, 0, isWhole);
+            } else {
+                bay.over(0, block);
+            }
+        }
+        bay.order(0, 0);
+        return bay;
+    }
+
+    /** Adds a train that may set out at once, from one station to another. */
+    static int runner(SemaphoreBay bay, int pace, int from, int to) {
+        int train = bay.train(0, pace, from, 0);
+        bay.stop(train, to, 0);
+        return train;
     }
 
     /**

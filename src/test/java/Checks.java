@@ -6,6 +6,8 @@ final class Checks {
     static final Class<? extends RuntimeException> ARGUMENT = IllegalArgumentException.class;
     static final Class<? extends RuntimeException> STATE = IllegalStateException.class;
 
+    private static final int TICKS_ALIKE = 20;
+
     private int made;
     private int wrong;
 
@@ -51,6 +53,32 @@ final class Checks {
             wrong++;
             System.out.println(what + " threw and changed something");
         }
+    }
+
+    /** The call must throw nothing. */
+    void accepted(String what, LongSupplier call) {
+        made++;
+        try {
+            call.getAsLong();
+        } catch (RuntimeException e) {
+            wrong++;
+            System.out.println(what + " threw " + e.getClass().getName() + ", due is nothing");
+        }
+    }
+
+    /** Two bays must look the same now, and as time goes by. */
+    void alike(String what, SemaphoreBay bay, SemaphoreBay twin) {
+        for (int gone = 0; gone <= TICKS_ALIKE; gone++) {
+            made++;
+            if (!Picture.of(bay).equals(Picture.of(twin))) {
+                wrong++;
+                System.out.println(what + ": not alike " + gone + " ticks later");
+                return;
+            }
+            bay.tick(1);
+            twin.tick(1);
+        }
+        same(what + ": order", bay.order(0, 0), twin.order(0, 0));
     }
 
     void end(String name) {
