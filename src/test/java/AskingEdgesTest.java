@@ -9,8 +9,8 @@ public final class AskingEdgesTest {
 
     private static final List<Supplier<SemaphoreBay>> BAYS = List.of(
             SemaphoreBay::new, Bays::meeting, Bays::wholeMeeting, Bays::station, Bays::full,
-            () -> Bays.after(Bays.meeting(), 4), () -> Bays.after(Bays.wholeMeeting(), 5), () -> Bays.after(Bays.station(), 9),
-            () -> Bays.after(Bays.full(), 12));
+            () -> Bays.after(Bays.meeting(), 4), () -> Bays.after(Bays.wholeMeeting(), 5),
+            () -> Bays.after(Bays.station(), 9), () -> Bays.after(Bays.full(), 12));
 
     public static void main(String[] args) {
         manyOfNoneAndOfAll();
