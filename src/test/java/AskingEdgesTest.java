@@ -184,6 +184,21 @@ public final class AskingEdgesTest {
             C.no("24: its second block is held, it is whole", bay.isOpen(train, 2));
             C.yes("24: its second block is held, it is not whole", bay.isOpen(train, 3));
         }
+        bay.platforms(1, 4);
+        C.no("24: its own route, with room", bay.isOpen(0, 0));
+        C.no("24: its own route, for another one", bay.isOpen(1, 0));
+        bay.tick(9);
+        C.yes("24: its own route, as it is on the second block, which need not be clear", bay.isOpen(0, 0));
+        SemaphoreBay whole = Bays.row(true, 1, 1);
+        whole.platforms(1, 4);
+        Bays.runner(whole, 1, 0, 1);
+        for (int block = 0; block < 2; block++) {
+            whole.tick(1);
+            C.same("16: it holds one", whole.ofBlock(block, 1), 0);
+            C.no("24: its own route, which is whole", whole.isOpen(0, 0));
+        }
+        whole.tick(1);
+        C.yes("24: the route that was its own", whole.isOpen(0, 0));
     }
 
     /** "nor LOCKED for another one" */

@@ -34,6 +34,8 @@ public final class TrainEdgesTest {
         aTickIsOneToSixty();
         sixtyTicksAreSixtyTimesOne();
         theOrders();
+        theTimesOfTheStopsAtWhichTheyAre();
+        theRanksAsTheyAreNow();
         ofSeveralTheSmallestNumber();
         allRollAheadOfThoseThatSetOut();
         theOneBehindTakesTheBlockWithTheSameTick();
@@ -594,6 +596,53 @@ public final class TrainEdgesTest {
         C.same("12: by times", firstOf(2, ranks, times), 3);
         SemaphoreBay atFirst = new SemaphoreBay();
         C.same("7: by numbers, at first", atFirst.order(0, 2), 0);
+    }
+
+    /** "2 by the TIMES of the STOPS AT which they are": neither of their first stops, nor of the next ones. */
+    private static void theTimesOfTheStopsAtWhichTheyAre() {
+        SemaphoreBay bay = new SemaphoreBay();
+        for (int block = 0; block < 3; block++) {
+            bay.block(1);
+        }
+        bay.route(0, 2, 0, false);
+        bay.route(1, 2, 1, false);
+        bay.route(2, 3, 2, false);
+        bay.order(2, 0);
+        int[][] times = {{0, 9, 10}, {1, 8, 40}};
+        for (int train = 0; train < 2; train++) {
+            bay.train(0, 1, train, times[train][0]);
+            bay.stop(train, 2, times[train][1]);
+            bay.stop(train, 3, times[train][2]);
+        }
+        bay.holdBack(0, 20);
+        bay.holdBack(1, 20);
+        Bays.after(bay, 20);
+        C.same("12: both set out", bay.many(5), 2);
+        bay.tick(1);
+        C.same("12: the smallest time of the stop at which they are", bay.ofBlock(2, 1), 1);
+        C.same("12: the other one waits", bay.waitsFor(0), 1);
+        C.same("19: late by the time of that stop", bay.ofTrain(1, 8), 21 - 8);
+    }
+
+    /** "1 by RANKS": as they are when the tick comes. */
+    private static void theRanksAsTheyAreNow() {
+        SemaphoreBay bay = Bays.row(false, 2);
+        bay.platforms(0, 3);
+        bay.platforms(1, 3);
+        for (int train = 0; train < 3; train++) {
+            Bays.runner(bay, 1, 0, 1);
+            bay.rank(train, 3 - train);
+        }
+        bay.order(1, 0);
+        bay.tick(1);
+        C.same("12: the greatest", bay.ofBlock(0, 1), 0);
+        bay.rank(2, 3);
+        bay.tick(2);
+        C.same("12: the greatest now", bay.ofBlock(0, 1), 2);
+        bay.order(0, 0);
+        bay.rank(1, 0);
+        bay.tick(2);
+        C.same("12: the last one, whatever its rank", bay.ofBlock(0, 1), 1);
     }
 
     /** "of several the smallest number first" */
